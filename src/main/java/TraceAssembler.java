@@ -20,16 +20,23 @@ public final class TraceAssembler {
     /** The number of a placeholder is this plus the id that is missing. */
     private static final int PLACEHOLDER = 1000;
     private static final int TRACE_FACTOR = 10000;
+    /** What a number about the spans of a service is about. */
+    private static final int COUNT = 0;
+    private static final int ERRORS = 1;
+    private static final int DURATIONS = 2;
+    private static final int SELF_TIMES = 3;
+    private static final int CRITICAL_TIMES = 4;
+    private static final int LONGEST = 5;
 
-    private final Store store = new Store();
+    private final Store store;
     private final Store saved = new Store();
     /** The spans of the text that is read, until it is known that all of them can be added. */
     private final Store draft = new Store();
     private final History history = new History();
-    private final Clocks clocks = new Clocks(store);
-    private final Forest forest = new Forest(store, clocks);
-    private final Path path = new Path(store, forest);
-    private final Figures figures = new Figures(store, forest, path);
+    private final Clocks clocks;
+    private final Forest forest;
+    private final Path path;
+    private final Figures figures;
     private final Shelves shelves = new Shelves();
     private final Input input = new Input();
     private final StringBuilder entry = new StringBuilder();
@@ -38,6 +45,15 @@ public final class TraceAssembler {
     private int keptErrorPosition = NONE;
 
     public TraceAssembler() {
+        Store told = new Store();
+        Clocks solved = new Clocks(told);
+        Forest built = new Forest(told, solved);
+        Path followed = new Path(told, built);
+        figures = new Figures(told, built, followed);
+        path = followed;
+        forest = built;
+        clocks = solved;
+        store = told;
     }
 
     public int clear() {
@@ -318,11 +334,18 @@ public final class TraceAssembler {
 
     public int service(int service, int what) throws IndexOutOfBoundsException, IllegalArgumentException {
         checkService(service);
-        if (!isWithin(what, 6)) {
+        if (what < COUNT || what > LONGEST) {
             throw new IllegalArgumentException("what is not 0 to 5");
         }
         workOut();
-        return what == 4 ? figures.criticalUnits(service) : figures.ofService(service, what);
+        switch (what) {
+            case CRITICAL_TIMES:
+                return figures.criticalUnits(service);
+            case LONGEST:
+                return figures.longestDuration(service);
+            default:
+                return figures.sumOf(service, what);
+        }
     }
 
     public int quantile(int service, int percentage)
@@ -331,7 +354,7 @@ public final class TraceAssembler {
         if (!isWithin(percentage, 101)) {
             throw new IllegalArgumentException("percentage out of range");
         }
-        int all = figures.ofService(service, 0);
+        int all = figures.sumOf(service, COUNT);
         if (all == 0) {
             throw new NoSuchElementException("no span of the service");
         }
@@ -340,6 +363,7 @@ public final class TraceAssembler {
 
     public int extent(int trace) throws IndexOutOfBoundsException, NoSuchElementException {
         checkTrace(trace);
+        workOut();
         return extentOf(trace);
     }
 
@@ -347,12 +371,14 @@ public final class TraceAssembler {
             throws IndexOutOfBoundsException, NoSuchElementException, ArithmeticException {
         checkTrace(trace);
         checkService(service);
+        workOut();
         int extent = positiveExtentOf(trace);
         return (float) figures.busyUnits(trace, service) / (float) extent;
     }
 
     public int busiest(int trace) throws IndexOutOfBoundsException, NoSuchElementException, ArithmeticException {
         checkTrace(trace);
+        workOut();
         positiveExtentOf(trace);
         return figures.busiestService(trace);
     }
@@ -545,7 +571,6 @@ public final class TraceAssembler {
         if (figures.spansOf(trace) == 0) {
             throw new NoSuchElementException("the trace has no spans");
         }
-        workOut();
         return figures.latestEnd(trace) - figures.earliestBegin(trace);
     }
 
@@ -600,7 +625,7 @@ public final class TraceAssembler {
         entry.append(';');
     }
 
-    /** Spans in the order in which they came, links (by the ids of their spans) in the order in which they were made. */
+    /** Spans and links in the order in which they came; a link is kept as the ids of its two spans. */
     private static final class Store {
         int spans = 0;
         int links = 0;
@@ -810,11 +835,14 @@ public final class TraceAssembler {
 
         private int judge(int place) {
             int parent = store.presentParent(place);
-            if (parent == NONE || store.services[parent] == store.services[place]) {
+            if (!isWithin(parent, MOST_SPANS)) {
                 return NO_PAIR;
             }
             int below = store.services[place];
             int above = store.services[parent];
+            if (below == above || !isWithin(below, SERVICES) || !isWithin(above, SERVICES)) {
+                return NO_PAIR;
+            }
             int least = store.begins[parent] - store.begins[place];
             int greatest = store.ends[parent] - store.ends[place];
             if (least > greatest || least > most[below][above] || -greatest > most[above][below]) {
@@ -826,6 +854,9 @@ public final class TraceAssembler {
         }
 
         private void tighten(int high, int low, int bound) {
+            if (most[high][low] <= bound) {
+                return;
+            }
             for (int a = 0; a < SERVICES; a++) {
                 for (int b = 0; b < SERVICES; b++) {
                     if (most[a][high] != FAR && most[low][b] != FAR) {
@@ -862,8 +893,11 @@ public final class TraceAssembler {
         final int[] ends = new int[MOST_SPANS];
         final int[] presents = new int[MOST_SPANS];
         final int[] kinds = new int[MOST_SPANS];
-        /** The node above each span, NONE for roots. */
+        /** The place of the span above each span in its tree, NONE for roots and children of placeholders. */
+        final int[] overs = new int[MOST_SPANS];
+        /** The id or number of the node above each span, NONE for roots. */
         final int[] nodesOver = new int[MOST_SPANS];
+        final boolean[] areOverErrors = new boolean[MOST_SPANS];
         /** All places by corrected begins, those with equal ones by ids. */
         final int[] order = new int[MOST_SPANS];
         private final Store store;
@@ -884,8 +918,15 @@ public final class TraceAssembler {
             }
             for (int place = 0; place < store.spans; place++) {
                 kinds[place] = kindOf(place);
+                overs[place] = kinds[place] == CHILD ? presents[place] : NONE;
                 nodesOver[place] = nodeOver(place);
+                areOverErrors[place] = false;
                 insert(place);
+            }
+            for (int place = 0; place < store.spans; place++) {
+                if (store.errors[place]) {
+                    spreadError(place);
+                }
             }
         }
 
@@ -901,7 +942,7 @@ public final class TraceAssembler {
 
         private boolean isLowestOfCycle(int place) {
             int current = presents[place];
-            for (int step = 0; step < MOST_SPANS && current != NONE; step++) {
+            for (int step = 0; step < MOST_SPANS && isWithin(current, MOST_SPANS); step++) {
                 if (current == place) {
                     return true;
                 }
@@ -937,10 +978,18 @@ public final class TraceAssembler {
                     || begins[place] == begins[other] && store.ids[place] < store.ids[other];
         }
 
+        private void spreadError(int place) {
+            int current = overs[place];
+            for (int step = 0; step < MOST_SPANS && isWithin(current, MOST_SPANS); step++) {
+                areOverErrors[current] = true;
+                current = overs[current];
+            }
+        }
+
         private int topOf(int place) {
             int current = place;
-            for (int step = 0; step < MOST_SPANS && kinds[current] == CHILD; step++) {
-                current = presents[current];
+            for (int step = 0; step < MOST_SPANS && isWithin(overs[current], MOST_SPANS); step++) {
+                current = overs[current];
             }
             return current;
         }
@@ -953,8 +1002,8 @@ public final class TraceAssembler {
         int nodesAbove(int place) {
             int current = place;
             int above = 0;
-            for (int step = 0; step < MOST_SPANS && kinds[current] == CHILD; step++) {
-                current = presents[current];
+            for (int step = 0; step < MOST_SPANS && isWithin(overs[current], MOST_SPANS); step++) {
+                current = overs[current];
                 above++;
             }
             return kinds[current] == ORPHAN ? above + 1 : above;
@@ -966,14 +1015,11 @@ public final class TraceAssembler {
 
         boolean isDescendant(int place, int trace, int node) {
             int current = place;
-            for (int step = 0; step < MOST_SPANS; step++) {
+            for (int step = 0; step < MOST_SPANS && isWithin(current, MOST_SPANS); step++) {
                 if (isChild(current, trace, node)) {
                     return true;
                 }
-                if (kinds[current] != CHILD) {
-                    return false;
-                }
-                current = presents[current];
+                current = overs[current];
             }
             return false;
         }
@@ -1274,15 +1320,7 @@ public final class TraceAssembler {
         }
 
         boolean isErrorSource(int place) {
-            if (!store.errors[place]) {
-                return false;
-            }
-            for (int other = 0; other < store.spans; other++) {
-                if (store.errors[other] && forest.isDescendant(other, store.traces[place], store.ids[place])) {
-                    return false;
-                }
-            }
-            return true;
+            return store.errors[place] && !forest.areOverErrors[place];
         }
 
         int errorSourceAt(int trace, int index) {
@@ -1319,29 +1357,39 @@ public final class TraceAssembler {
             return count;
         }
 
-        /** The sum, or for the durations of 5 the greatest, of a number of all spans of a service. */
-        int ofService(int service, int what) {
-            int result = 0;
+        int sumOf(int service, int what) {
+            int sum = 0;
             for (int place = 0; place < store.spans; place++) {
                 if (store.services[place] == service) {
-                    int number = ofSpan(place, what);
-                    result = what == 5 ? Math.max(result, number) : result + number;
+                    sum += numberOf(place, what);
                 }
             }
-            return result;
+            return sum;
         }
 
-        private int ofSpan(int place, int what) {
+        private int numberOf(int place, int what) {
             switch (what) {
-                case 0:
+                case COUNT:
                     return 1;
-                case 1:
+                case ERRORS:
                     return store.errors[place] ? 1 : 0;
-                case 3:
+                case DURATIONS:
+                    return store.duration(place);
+                case SELF_TIMES:
                     return ownUnits(place);
                 default:
-                    return store.duration(place);
+                    return 0;
             }
+        }
+
+        int longestDuration(int service) {
+            int longest = 0;
+            for (int place = 0; place < store.spans; place++) {
+                if (store.services[place] == service) {
+                    longest = Math.max(longest, store.duration(place));
+                }
+            }
+            return longest;
         }
 
         int criticalUnits(int service) {
