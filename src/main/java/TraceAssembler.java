@@ -20,6 +20,8 @@ public final class TraceAssembler {
     /** The number of a placeholder is this plus the id that is missing. */
     private static final int PLACEHOLDER = 1000;
     private static final int TRACE_FACTOR = 10000;
+    /** Beyond all corrected times and all bounds between offsets: these stay below 9 times 10000. */
+    private static final int FAR = 1000000;
     /** What a number about the spans of a service is about. */
     private static final int COUNT = 0;
     private static final int ERRORS = 1;
@@ -45,6 +47,7 @@ public final class TraceAssembler {
     private int keptErrorPosition = NONE;
 
     public TraceAssembler() {
+        // put together from locals, so that nothing of this object is handed out before it is whole
         Store told = new Store();
         Clocks solved = new Clocks(told);
         Forest built = new Forest(told, solved);
@@ -792,16 +795,15 @@ public final class TraceAssembler {
         static final int REJECTED = 2;
         /** As a number of choices: every integer. */
         static final int UNBOUNDED = 0;
-        /** As a bound: none. Real bounds stay below 8 services times 10000. */
-        private static final int FAR = 1000000;
 
         final int[] verdicts = new int[MOST_SPANS];
         final int[] offsets = new int[SERVICES];
         final int[] choices = new int[SERVICES];
         private final Store store;
         /**
-         * At [a][b] the most that the offset of a may be above that of b by all accepted pairs together. It is kept
-         * tight over all detours: then each bound by itself tells whether a new pair can hold beside the others.
+         * At [a][b] the most that the offset of a may be above that of b by all accepted pairs together, FAR if there
+         * is no bound. It is kept tight over all detours: then each bound by itself tells whether a new pair can hold
+         * beside the others.
          */
         private final int[][] most = new int[SERVICES][SERVICES];
 
@@ -975,7 +977,7 @@ public final class TraceAssembler {
 
         private boolean isEarlier(int place, int other) {
             return begins[place] < begins[other]
-                    || begins[place] == begins[other] && store.ids[place] < store.ids[other];
+                    || (begins[place] == begins[other] && store.ids[place] < store.ids[other]);
         }
 
         private void spreadError(int place) {
@@ -1072,7 +1074,7 @@ public final class TraceAssembler {
             if (place != NONE) {
                 return begins[place];
             }
-            int least = Integer.MAX_VALUE;
+            int least = FAR;
             for (int child = 0; child < store.spans; child++) {
                 if (isChild(child, trace, node)) {
                     least = Math.min(least, begins[child]);
@@ -1086,7 +1088,7 @@ public final class TraceAssembler {
             if (place != NONE) {
                 return ends[place];
             }
-            int greatest = Integer.MIN_VALUE;
+            int greatest = -FAR;
             for (int child = 0; child < store.spans; child++) {
                 if (isChild(child, trace, node)) {
                     greatest = Math.max(greatest, ends[child]);
@@ -1113,7 +1115,7 @@ public final class TraceAssembler {
             int count = 0;
             int number = nextRoot(trace, NONE);
             for (int step = 0; step < MOST_SPANS && number != NONE; step++) {
-                if (number >= PLACEHOLDER == arePlaceholders) {
+                if ((number >= PLACEHOLDER) == arePlaceholders) {
                     count++;
                 }
                 number = nextRoot(trace, number);
@@ -1222,8 +1224,8 @@ public final class TraceAssembler {
                 int cutEnd = Math.min(forest.ends[place], time);
                 if (cutBegin < cutEnd && forest.isChild(place, trace, node)) {
                     boolean isBetter = best == NONE || cutEnd > bestEnd
-                            || cutEnd == bestEnd && (cutBegin < bestBegin
-                            || cutBegin == bestBegin && store.ids[place] < store.ids[best]);
+                            || (cutEnd == bestEnd && cutBegin < bestBegin)
+                            || (cutEnd == bestEnd && cutBegin == bestBegin && store.ids[place] < store.ids[best]);
                     if (isBetter) {
                         best = place;
                         bestBegin = cutBegin;
@@ -1429,7 +1431,7 @@ public final class TraceAssembler {
         }
 
         int earliestBegin(int trace) {
-            int least = Integer.MAX_VALUE;
+            int least = FAR;
             for (int place = 0; place < store.spans; place++) {
                 if (store.traces[place] == trace) {
                     least = Math.min(least, forest.begins[place]);
@@ -1439,7 +1441,7 @@ public final class TraceAssembler {
         }
 
         int latestEnd(int trace) {
-            int greatest = Integer.MIN_VALUE;
+            int greatest = -FAR;
             for (int place = 0; place < store.spans; place++) {
                 if (store.traces[place] == trace) {
                     greatest = Math.max(greatest, forest.ends[place]);
@@ -1450,7 +1452,7 @@ public final class TraceAssembler {
 
         int busyUnits(int trace, int service) {
             int busy = 0;
-            int done = Integer.MIN_VALUE;
+            int done = -FAR;
             for (int rank = 0; rank < store.spans; rank++) {
                 int place = forest.order[rank];
                 if (store.traces[place] == trace && store.services[place] == service) {
@@ -1483,11 +1485,11 @@ public final class TraceAssembler {
             int reached = 0;
             // a round without a new trace is the last one that matters, so there are at most as many as traces
             for (int round = 0; round < TRACES; round++) {
-                int sources = reached | 1 << trace;
+                int sources = reached | (1 << trace);
                 for (int link = 0; link < store.links; link++) {
                     int from = store.find(store.froms[link]);
                     int to = store.find(store.tos[link]);
-                    if (from != NONE && to != NONE && (sources >> store.traces[from] & 1) == 1) {
+                    if (from != NONE && to != NONE && ((sources >> store.traces[from]) & 1) == 1) {
                         reached |= 1 << store.traces[to];
                     }
                 }
@@ -1577,7 +1579,7 @@ public final class TraceAssembler {
             }
             boolean hasParent = !take('-');
             int parent = hasParent ? takeNumber(2) : NONE;
-            if (hasParent && parent == NONE || !take('@')) {
+            if ((hasParent && parent == NONE) || !take('@')) {
                 return false;
             }
             int service = takeDigit(SERVICES - 1);

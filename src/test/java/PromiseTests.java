@@ -145,6 +145,15 @@ public final class PromiseTests {
         due(x.restore(), 4);
         due(x.linkCount(), 1);
         due(x.bookmarked(0, 0), 1);
+        // what was worked out before is gone, too
+        TraceAssembler y = new TraceAssembler();
+        y.add(0, 1, 9, 0, 100, 200);
+        y.add(0, 2, 1, 1, 130, 150);
+        due(y.offset(1), 10);
+        y.clear();
+        due(y.offset(1), 0);
+        due(y.cutCount(), 0);
+        dueThrow(MISSING, () -> y.freedom(1), () -> y.below(0, 1009));
     }
 
     private static void add() {
@@ -526,6 +535,8 @@ public final class PromiseTests {
         dueThrow(MISSING, () -> x.child(0, 1, 3), () -> x.child(0, 1, -1), () -> x.child(0, 2, 0),
                 () -> x.child(0, 9, 0), () -> x.child(1, 1, 0), () -> x.child(0, 1, HIGH), () -> x.child(0, 1, LOW));
         dueThrow(INDEX, () -> x.child(-1, 1, 0), () -> x.child(4, 1, 9));
+        // no node between the ids and the numbers, nor -1 for what roots have above them
+        dueThrow(MISSING, () -> x.child(0, -1, 0), () -> x.child(0, 500, 0));
         x.setTimes(3, 10, 12);
         due(x.child(0, 1, 0), 2);
         due(x.child(0, 1, 1), 3);
@@ -1040,6 +1051,9 @@ public final class PromiseTests {
         dueThrow(MISSING, () -> x.bookmark(0, 0, 1, 1), () -> x.bookmark(0, 0, 0, 1050),
                 () -> x.bookmark(1, 0, 0, 99));
         dueThrow(UNSUPPORTED, () -> x.bookmark(0, 0, 1, 1050));
+        x.add(2, 8, 0, 0, 0, 0);
+        dueThrow(UNSUPPORTED, () -> x.bookmark(0, 0, 2, 1000));
+        x.undo();
         due(x.bookmarked(0, 0), 1);
         // the change before the bookmarks is still the latest one
         due(x.undo(), 4);
@@ -1065,6 +1079,10 @@ public final class PromiseTests {
         x.add(3, 9, 9, 0, 0, 0);
         due(x.bookmarked(0, 0), 30009);
         x.add(3, 8, 50, 0, 0, 0);
+        due(x.bookmarked(1, 3), 31050);
+        x.setParent(8, 51);
+        dueThrow(MISSING, () -> x.bookmarked(1, 3));
+        x.setParent(8, 50);
         due(x.bookmarked(1, 3), 31050);
         x.save();
         x.clear();
@@ -1237,6 +1255,10 @@ public final class PromiseTests {
         x.mark(0, true);
         x.undo();
         due(x.append('0'), 2);
+        x.setParent(0, 9);
+        due(x.root(0), 1009);
+        x.undo();
+        due(x.root(0), 0);
     }
 
     private static void save() {
@@ -1283,5 +1305,10 @@ public final class PromiseTests {
         x.append('0');
         x.restore();
         due(x.append('/'), 2);
+        // what was worked out before is gone, too
+        x.setParent(3, 2);
+        due(x.depth(3), 2);
+        x.restore();
+        due(x.depth(3), 1);
     }
 }
