@@ -96,8 +96,8 @@ public final class TraceAssembler {
             throw new IllegalArgumentException("parent out of range");
         }
         startChange();
-        int previous = store.parents[place];
-        store.parents[place] = parent;
+        int previous = at(store.parents, place);
+        set(store.parents, place, parent);
         return previous;
     }
 
@@ -108,16 +108,16 @@ public final class TraceAssembler {
         }
         startChange();
         int previous = store.duration(place);
-        store.begins[place] = begin;
-        store.ends[place] = end;
+        set(store.begins, place, begin);
+        set(store.ends, place, end);
         return previous;
     }
 
     public boolean mark(int span, boolean isError) throws IndexOutOfBoundsException {
         int place = placeOf(span);
         startChange();
-        boolean wasError = store.errors[place];
-        store.errors[place] = isError;
+        boolean wasError = flagAt(store.errors, place);
+        setFlag(store.errors, place, isError);
         return wasError;
     }
 
@@ -129,15 +129,15 @@ public final class TraceAssembler {
         int place = placeOf(span);
         switch (what) {
             case 0:
-                return store.traces[place];
+                return at(store.traces, place);
             case 1:
-                return store.parents[place];
+                return at(store.parents, place);
             case 2:
-                return store.services[place];
+                return at(store.services, place);
             case 3:
-                return store.begins[place];
+                return at(store.begins, place);
             case 4:
-                return store.ends[place];
+                return at(store.ends, place);
             case 5:
                 return place;
             default:
@@ -148,13 +148,13 @@ public final class TraceAssembler {
     public int offset(int service) throws IndexOutOfBoundsException {
         checkService(service);
         workOut();
-        return clocks.offsets[service];
+        return at(clocks.offsets, service);
     }
 
     public int freedom(int service) throws IndexOutOfBoundsException, NoSuchElementException {
         checkService(service);
         workOut();
-        int choices = clocks.choices[service];
+        int choices = at(clocks.choices, service);
         if (choices == Clocks.UNBOUNDED) {
             throw new NoSuchElementException("every integer is possible");
         }
@@ -169,7 +169,7 @@ public final class TraceAssembler {
     public boolean isAccepted(int span) throws IndexOutOfBoundsException, NoSuchElementException {
         int place = placeOf(span);
         workOut();
-        int verdict = clocks.verdicts[place];
+        int verdict = at(clocks.verdicts, place);
         if (verdict == Clocks.NO_PAIR) {
             throw new NoSuchElementException("the span has no pair");
         }
@@ -179,23 +179,24 @@ public final class TraceAssembler {
     public boolean isInside(int span) throws IndexOutOfBoundsException, NoSuchElementException {
         int place = placeOf(span);
         workOut();
-        int parent = forest.presents[place];
+        int parent = at(forest.presents, place);
         if (!isWithin(parent, MOST_SPANS)) {
             throw new NoSuchElementException("the parent is not present");
         }
-        return forest.begins[place] >= forest.begins[parent] && forest.ends[place] <= forest.ends[parent];
+        return at(forest.begins, place) >= at(forest.begins, parent)
+                && at(forest.ends, place) <= at(forest.ends, parent);
     }
 
     public int corrected(int span, boolean isEnd) throws IndexOutOfBoundsException {
         int place = placeOf(span);
         workOut();
-        return isEnd ? forest.ends[place] : forest.begins[place];
+        return isEnd ? at(forest.ends, place) : at(forest.begins, place);
     }
 
     public int explain(int span) throws IndexOutOfBoundsException {
         int place = placeOf(span);
         workOut();
-        return forest.kinds[place];
+        return at(forest.kinds, place);
     }
 
     public int root(int span) throws IndexOutOfBoundsException {
@@ -226,7 +227,7 @@ public final class TraceAssembler {
         if (!isWithin(place, MOST_SPANS)) {
             throw new NoSuchElementException("no such child");
         }
-        return store.ids[place];
+        return at(store.ids, place);
     }
 
     public int roots(int trace, boolean isPlaceholder) throws IndexOutOfBoundsException {
@@ -278,13 +279,13 @@ public final class TraceAssembler {
             throw new NoSuchElementException("no such segment");
         }
         int row = path.rowOf(index);
-        return what == 0 ? path.nodes[row] : what == 1 ? path.begins[row] : path.ends[row];
+        return what == 0 ? at(path.nodes, row) : what == 1 ? at(path.begins, row) : at(path.ends, row);
     }
 
     public int criticalTime(int span) throws IndexOutOfBoundsException {
         int place = placeOf(span);
         workOut();
-        path.follow(store.traces[place], forest.rootNumber(place));
+        path.follow(at(store.traces, place), forest.rootNumber(place));
         return path.timeOf(span);
     }
 
@@ -323,7 +324,7 @@ public final class TraceAssembler {
         if (!isWithin(place, MOST_SPANS)) {
             throw new NoSuchElementException("no such cause");
         }
-        return store.ids[place];
+        return at(store.ids, place);
     }
 
     public double errorShare(int trace) throws IndexOutOfBoundsException, ArithmeticException {
@@ -414,10 +415,10 @@ public final class TraceAssembler {
 
     public int linkDelay(int link) throws IndexOutOfBoundsException {
         checkLink(link);
-        int from = placeOf(store.froms[link]);
-        int to = placeOf(store.tos[link]);
+        int from = placeOf(at(store.froms, link));
+        int to = placeOf(at(store.tos, link));
         workOut();
-        return forest.begins[to] - forest.ends[from];
+        return at(forest.begins, to) - at(forest.ends, from);
     }
 
     public int linkedTraces(int trace) throws IndexOutOfBoundsException {
@@ -522,6 +523,27 @@ public final class TraceAssembler {
         return number >= 0 && number < limit;
     }
 
+    /** What a row holds at an index, NONE beyond it: so no index is used that was not looked at before. */
+    private static int at(int[] row, int index) {
+        return index >= 0 && index < row.length ? row[index] : NONE;
+    }
+
+    private static void set(int[] row, int index, int value) {
+        if (index >= 0 && index < row.length) {
+            row[index] = value;
+        }
+    }
+
+    private static boolean flagAt(boolean[] row, int index) {
+        return index >= 0 && index < row.length && row[index];
+    }
+
+    private static void setFlag(boolean[] row, int index, boolean value) {
+        if (index >= 0 && index < row.length) {
+            row[index] = value;
+        }
+    }
+
     private static boolean isParentId(int parent) {
         return parent == NONE || isWithin(parent, IDS);
     }
@@ -590,9 +612,10 @@ public final class TraceAssembler {
             return false;
         }
         for (int place = 0; place < draft.spans; place++) {
-            int id = draft.ids[place];
+            int id = at(draft.ids, place);
             // find answers the first place, so another one means that the text has the id twice
-            if (draft.begins[place] > draft.ends[place] || store.find(id) != NONE || draft.find(id) != place) {
+            boolean isTaken = store.find(id) != NONE || draft.find(id) != place;
+            if (isTaken || at(draft.begins, place) > at(draft.ends, place)) {
                 return false;
             }
         }
@@ -614,15 +637,15 @@ public final class TraceAssembler {
 
     private void writeEntry(int place) {
         entry.setLength(0);
-        entry.append(store.traces[place]).append('/').append(store.ids[place]).append('<');
-        if (store.parents[place] == NONE) {
+        entry.append(at(store.traces, place)).append('/').append(at(store.ids, place)).append('<');
+        if (at(store.parents, place) == NONE) {
             entry.append('-');
         } else {
-            entry.append(store.parents[place]);
+            entry.append(at(store.parents, place));
         }
-        entry.append('@').append(store.services[place]).append(':');
-        entry.append(store.begins[place]).append('-').append(store.ends[place]);
-        if (store.errors[place]) {
+        entry.append('@').append(at(store.services, place)).append(':');
+        entry.append(at(store.begins, place)).append('-').append(at(store.ends, place));
+        if (flagAt(store.errors, place)) {
             entry.append('!');
         }
         entry.append(';');
@@ -654,7 +677,7 @@ public final class TraceAssembler {
             }
             links = 0;
             for (int link = 0; link < other.links; link++) {
-                keepLink(other.froms[link], other.tos[link]);
+                keepLink(at(other.froms, link), at(other.tos, link));
             }
         }
 
@@ -662,20 +685,21 @@ public final class TraceAssembler {
             if (!isWithin(spans, MOST_SPANS)) {
                 return;
             }
-            traces[spans] = trace;
-            ids[spans] = id;
-            parents[spans] = parent;
-            services[spans] = service;
-            begins[spans] = begin;
-            ends[spans] = end;
-            errors[spans] = isError;
+            set(traces, spans, trace);
+            set(ids, spans, id);
+            set(parents, spans, parent);
+            set(services, spans, service);
+            set(begins, spans, begin);
+            set(ends, spans, end);
+            setFlag(errors, spans, isError);
             spans++;
         }
 
         void keepCopy(Store other, int place) {
             if (isWithin(place, MOST_SPANS)) {
-                keep(other.traces[place], other.ids[place], other.parents[place], other.services[place],
-                        other.begins[place], other.ends[place], other.errors[place]);
+                keep(at(other.traces, place), at(other.ids, place), at(other.parents, place),
+                        at(other.services, place), at(other.begins, place), at(other.ends, place),
+                        flagAt(other.errors, place));
             }
         }
 
@@ -683,7 +707,7 @@ public final class TraceAssembler {
             if (!isWithin(place, spans)) {
                 return;
             }
-            dropLinksOf(ids[place]);
+            dropLinksOf(at(ids, place));
             int before = spans;
             // the spans from this place on are kept anew, the dropped one left out
             spans = place;
@@ -694,8 +718,8 @@ public final class TraceAssembler {
 
         void keepLink(int from, int to) {
             if (isWithin(links, MOST_LINKS)) {
-                froms[links] = from;
-                tos[links] = to;
+                set(froms, links, from);
+                set(tos, links, to);
                 links++;
             }
         }
@@ -705,7 +729,7 @@ public final class TraceAssembler {
             links = 0;
             for (int each = 0; each < before; each++) {
                 if (each != link) {
-                    keepLink(froms[each], tos[each]);
+                    keepLink(at(froms, each), at(tos, each));
                 }
             }
         }
@@ -714,15 +738,15 @@ public final class TraceAssembler {
             int before = links;
             links = 0;
             for (int each = 0; each < before; each++) {
-                if (froms[each] != id && tos[each] != id) {
-                    keepLink(froms[each], tos[each]);
+                if (at(froms, each) != id && at(tos, each) != id) {
+                    keepLink(at(froms, each), at(tos, each));
                 }
             }
         }
 
         boolean hasLink(int from, int to) {
             for (int link = 0; link < links; link++) {
-                if (froms[link] == from && tos[link] == to) {
+                if (at(froms, link) == from && at(tos, link) == to) {
                     return true;
                 }
             }
@@ -731,7 +755,7 @@ public final class TraceAssembler {
 
         /** The place of the span with an id, NONE if there is none. */
         int find(int id) {
-            for (int place = 0; place < spans; place++) {
+            for (int place = 0; place < spans && place < ids.length; place++) {
                 if (ids[place] == id) {
                     return place;
                 }
@@ -741,15 +765,15 @@ public final class TraceAssembler {
 
         /** The place of the present parent of a span, NONE if its parent is not present. */
         int presentParent(int place) {
-            int parent = find(parents[place]);
-            if (parent == NONE || parent == place || traces[parent] != traces[place]) {
+            int parent = find(at(parents, place));
+            if (parent == NONE || parent == place || at(traces, parent) != at(traces, place)) {
                 return NONE;
             }
             return parent;
         }
 
         int duration(int place) {
-            return ends[place] - begins[place];
+            return at(ends, place) - at(begins, place);
         }
     }
 
@@ -770,7 +794,7 @@ public final class TraceAssembler {
         }
 
         void remember(Store store) {
-            Store slot = before[next];
+            Store slot = slotAt(next);
             if (slot != null) {
                 slot.copyFrom(store);
             }
@@ -781,10 +805,14 @@ public final class TraceAssembler {
         void takeBack(Store store) {
             next = (next + MOST_CHANGES - 1) % MOST_CHANGES;
             remembered--;
-            Store slot = before[next];
+            Store slot = slotAt(next);
             if (slot != null) {
                 store.copyFrom(slot);
             }
+        }
+
+        private Store slotAt(int index) {
+            return isWithin(index, MOST_CHANGES) ? before[index] : null;
         }
     }
 
@@ -818,7 +846,7 @@ public final class TraceAssembler {
                 }
             }
             for (int place = 0; place < store.spans; place++) {
-                verdicts[place] = judge(place);
+                set(verdicts, place, judge(place));
             }
             for (int service = 0; service < SERVICES; service++) {
                 choose(service);
@@ -828,7 +856,7 @@ public final class TraceAssembler {
         int countVerdicts(int verdict) {
             int count = 0;
             for (int place = 0; place < store.spans; place++) {
-                if (verdicts[place] == verdict) {
+                if (at(verdicts, place) == verdict) {
                     count++;
                 }
             }
@@ -840,14 +868,14 @@ public final class TraceAssembler {
             if (!isWithin(parent, MOST_SPANS)) {
                 return NO_PAIR;
             }
-            int below = store.services[place];
-            int above = store.services[parent];
-            if (below == above || !isWithin(below, SERVICES) || !isWithin(above, SERVICES)) {
+            int below = at(store.services, place);
+            int above = at(store.services, parent);
+            if (below == above) {
                 return NO_PAIR;
             }
-            int least = store.begins[parent] - store.begins[place];
-            int greatest = store.ends[parent] - store.ends[place];
-            if (least > greatest || least > most[below][above] || -greatest > most[above][below]) {
+            int least = at(store.begins, parent) - at(store.begins, place);
+            int greatest = at(store.ends, parent) - at(store.ends, place);
+            if (least > greatest || least > mostOf(below, above) || -greatest > mostOf(above, below)) {
                 return REJECTED;
             }
             tighten(below, above, greatest);
@@ -855,14 +883,20 @@ public final class TraceAssembler {
             return ACCEPTED;
         }
 
+        private int mostOf(int a, int b) {
+            return a >= 0 && a < SERVICES && b >= 0 && b < SERVICES ? most[a][b] : FAR;
+        }
+
         private void tighten(int high, int low, int bound) {
-            if (most[high][low] <= bound) {
+            if (mostOf(high, low) <= bound) {
                 return;
             }
             for (int a = 0; a < SERVICES; a++) {
                 for (int b = 0; b < SERVICES; b++) {
-                    if (most[a][high] != FAR && most[low][b] != FAR) {
-                        most[a][b] = Math.min(most[a][b], most[a][high] + bound + most[low][b]);
+                    int before = mostOf(a, high);
+                    int after = mostOf(low, b);
+                    if (before != FAR && after != FAR) {
+                        most[a][b] = Math.min(most[a][b], before + bound + after);
                     }
                 }
             }
@@ -873,14 +907,16 @@ public final class TraceAssembler {
             int greatest = FAR;
             for (int chosen = 0; chosen < service; chosen++) {
                 // an accepted pair bounds from both sides, so either both bounds are there or none
-                if (most[service][chosen] != FAR && most[chosen][service] != FAR) {
-                    least = Math.max(least, offsets[chosen] - most[chosen][service]);
-                    greatest = Math.min(greatest, offsets[chosen] + most[service][chosen]);
+                int above = mostOf(service, chosen);
+                int below = mostOf(chosen, service);
+                if (above != FAR && below != FAR) {
+                    least = Math.max(least, at(offsets, chosen) - below);
+                    greatest = Math.min(greatest, at(offsets, chosen) + above);
                 }
             }
             boolean isBounded = greatest != FAR;
-            offsets[service] = isBounded ? Math.floorDiv(least + greatest, 2) : 0;
-            choices[service] = isBounded ? greatest - least + 1 : UNBOUNDED;
+            set(offsets, service, isBounded ? Math.floorDiv(least + greatest, 2) : 0);
+            set(choices, service, isBounded ? greatest - least + 1 : UNBOUNDED);
         }
     }
 
@@ -912,56 +948,56 @@ public final class TraceAssembler {
 
         void build() {
             for (int place = 0; place < store.spans; place++) {
-                int service = store.services[place];
-                int shift = isWithin(service, SERVICES) ? clocks.offsets[service] : 0;
-                begins[place] = store.begins[place] + shift;
-                ends[place] = store.ends[place] + shift;
-                presents[place] = store.presentParent(place);
+                int service = at(store.services, place);
+                int shift = isWithin(service, SERVICES) ? at(clocks.offsets, service) : 0;
+                set(begins, place, at(store.begins, place) + shift);
+                set(ends, place, at(store.ends, place) + shift);
+                set(presents, place, store.presentParent(place));
             }
             for (int place = 0; place < store.spans; place++) {
-                kinds[place] = kindOf(place);
-                overs[place] = kinds[place] == CHILD ? presents[place] : NONE;
-                nodesOver[place] = nodeOver(place);
-                areOverErrors[place] = false;
+                set(kinds, place, kindOf(place));
+                set(overs, place, at(kinds, place) == CHILD ? at(presents, place) : NONE);
+                set(nodesOver, place, nodeOver(place));
+                setFlag(areOverErrors, place, false);
                 insert(place);
             }
             for (int place = 0; place < store.spans; place++) {
-                if (store.errors[place]) {
+                if (flagAt(store.errors, place)) {
                     spreadError(place);
                 }
             }
         }
 
         private int kindOf(int place) {
-            if (store.parents[place] == NONE) {
+            if (at(store.parents, place) == NONE) {
                 return ROOT;
             }
-            if (presents[place] == NONE) {
+            if (at(presents, place) == NONE) {
                 return ORPHAN;
             }
             return isLowestOfCycle(place) ? CUT : CHILD;
         }
 
         private boolean isLowestOfCycle(int place) {
-            int current = presents[place];
+            int current = at(presents, place);
             for (int step = 0; step < MOST_SPANS && isWithin(current, MOST_SPANS); step++) {
                 if (current == place) {
                     return true;
                 }
-                if (store.ids[current] < store.ids[place]) {
+                if (at(store.ids, current) < at(store.ids, place)) {
                     return false;
                 }
-                current = presents[current];
+                current = at(presents, current);
             }
             return false;
         }
 
         private int nodeOver(int place) {
-            switch (kinds[place]) {
+            switch (at(kinds, place)) {
                 case CHILD:
-                    return store.parents[place];
+                    return at(store.parents, place);
                 case ORPHAN:
-                    return PLACEHOLDER + store.parents[place];
+                    return PLACEHOLDER + at(store.parents, place);
                 default:
                     return NONE;
             }
@@ -969,50 +1005,50 @@ public final class TraceAssembler {
 
         private void insert(int place) {
             int slot = place;
-            for (; slot > 0 && isEarlier(place, order[slot - 1]); slot--) {
-                order[slot] = order[slot - 1];
+            for (; slot > 0 && isEarlier(place, at(order, slot - 1)); slot--) {
+                set(order, slot, at(order, slot - 1));
             }
-            order[slot] = place;
+            set(order, slot, place);
         }
 
         private boolean isEarlier(int place, int other) {
-            return begins[place] < begins[other]
-                    || (begins[place] == begins[other] && store.ids[place] < store.ids[other]);
+            return at(begins, place) < at(begins, other)
+                    || (at(begins, place) == at(begins, other) && at(store.ids, place) < at(store.ids, other));
         }
 
         private void spreadError(int place) {
-            int current = overs[place];
+            int current = at(overs, place);
             for (int step = 0; step < MOST_SPANS && isWithin(current, MOST_SPANS); step++) {
-                areOverErrors[current] = true;
-                current = overs[current];
+                setFlag(areOverErrors, current, true);
+                current = at(overs, current);
             }
         }
 
         private int topOf(int place) {
             int current = place;
-            for (int step = 0; step < MOST_SPANS && isWithin(overs[current], MOST_SPANS); step++) {
-                current = overs[current];
+            for (int step = 0; step < MOST_SPANS && isWithin(at(overs, current), MOST_SPANS); step++) {
+                current = at(overs, current);
             }
             return current;
         }
 
         int rootNumber(int place) {
             int top = topOf(place);
-            return kinds[top] == ORPHAN ? nodesOver[top] : store.ids[top];
+            return at(kinds, top) == ORPHAN ? at(nodesOver, top) : at(store.ids, top);
         }
 
         int nodesAbove(int place) {
             int current = place;
             int above = 0;
-            for (int step = 0; step < MOST_SPANS && isWithin(overs[current], MOST_SPANS); step++) {
-                current = overs[current];
+            for (int step = 0; step < MOST_SPANS && isWithin(at(overs, current), MOST_SPANS); step++) {
+                current = at(overs, current);
                 above++;
             }
-            return kinds[current] == ORPHAN ? above + 1 : above;
+            return at(kinds, current) == ORPHAN ? above + 1 : above;
         }
 
         boolean isChild(int place, int trace, int node) {
-            return nodesOver[place] == node && store.traces[place] == trace;
+            return at(nodesOver, place) == node && at(store.traces, place) == trace;
         }
 
         boolean isDescendant(int place, int trace, int node) {
@@ -1021,7 +1057,7 @@ public final class TraceAssembler {
                 if (isChild(current, trace, node)) {
                     return true;
                 }
-                current = overs[current];
+                current = at(overs, current);
             }
             return false;
         }
@@ -1050,9 +1086,9 @@ public final class TraceAssembler {
         int childAt(int trace, int node, int index) {
             int seen = 0;
             for (int rank = 0; rank < store.spans; rank++) {
-                if (isChild(order[rank], trace, node)) {
+                if (isChild(at(order, rank), trace, node)) {
                     if (seen == index) {
-                        return order[rank];
+                        return at(order, rank);
                     }
                     seen++;
                 }
@@ -1066,18 +1102,18 @@ public final class TraceAssembler {
 
         boolean isNode(int trace, int node) {
             int place = store.find(node);
-            return place == NONE ? isPlaceholder(trace, node) : store.traces[place] == trace;
+            return place == NONE ? isPlaceholder(trace, node) : at(store.traces, place) == trace;
         }
 
         int nodeBegin(int trace, int node) {
             int place = store.find(node);
             if (place != NONE) {
-                return begins[place];
+                return at(begins, place);
             }
             int least = FAR;
             for (int child = 0; child < store.spans; child++) {
                 if (isChild(child, trace, node)) {
-                    least = Math.min(least, begins[child]);
+                    least = Math.min(least, at(begins, child));
                 }
             }
             return least;
@@ -1086,12 +1122,12 @@ public final class TraceAssembler {
         int nodeEnd(int trace, int node) {
             int place = store.find(node);
             if (place != NONE) {
-                return ends[place];
+                return at(ends, place);
             }
             int greatest = -FAR;
             for (int child = 0; child < store.spans; child++) {
                 if (isChild(child, trace, node)) {
-                    greatest = Math.max(greatest, ends[child]);
+                    greatest = Math.max(greatest, at(ends, child));
                 }
             }
             return greatest;
@@ -1101,7 +1137,7 @@ public final class TraceAssembler {
         int nextRoot(int trace, int number) {
             int lowest = NONE;
             for (int place = 0; place < store.spans; place++) {
-                if (store.traces[place] == trace && kinds[place] != CHILD) {
+                if (at(store.traces, place) == trace && at(kinds, place) != CHILD) {
                     int root = rootNumber(place);
                     if (root > number && (lowest == NONE || root < lowest)) {
                         lowest = root;
@@ -1137,7 +1173,7 @@ public final class TraceAssembler {
         int countKind(int kind) {
             int count = 0;
             for (int place = 0; place < store.spans; place++) {
-                if (kinds[place] == kind) {
+                if (at(kinds, place) == kind) {
                     count++;
                 }
             }
@@ -1179,7 +1215,7 @@ public final class TraceAssembler {
             enter(node, forest.nodeBegin(trace, node), forest.nodeEnd(trace, node));
             for (int step = 0; step < MOST_STEPS && isWithin(open - 1, MOST_NODES); step++) {
                 int last = open - 1;
-                if (openTimes[last] > openBegins[last]) {
+                if (at(openTimes, last) > at(openBegins, last)) {
                     goBack(last);
                 } else {
                     open--;
@@ -1189,30 +1225,30 @@ public final class TraceAssembler {
 
         private void enter(int node, int begin, int end) {
             if (isWithin(open, MOST_NODES)) {
-                openNodes[open] = node;
-                openBegins[open] = begin;
-                openTimes[open] = end;
+                set(openNodes, open, node);
+                set(openBegins, open, begin);
+                set(openTimes, open, end);
                 open++;
             }
         }
 
         private void goBack(int window) {
-            int node = openNodes[window];
-            int begin = openBegins[window];
-            int time = openTimes[window];
+            int node = at(openNodes, window);
+            int begin = at(openBegins, window);
+            int time = at(openTimes, window);
             int child = latestChild(node, begin, time);
             if (child == NONE) {
                 record(node, begin, time);
-                openTimes[window] = begin;
+                set(openTimes, window, begin);
                 return;
             }
-            int cutBegin = Math.max(forest.begins[child], begin);
-            int cutEnd = Math.min(forest.ends[child], time);
+            int cutBegin = Math.max(at(forest.begins, child), begin);
+            int cutEnd = Math.min(at(forest.ends, child), time);
             if (cutEnd < time) {
                 record(node, cutEnd, time);
             }
-            openTimes[window] = cutBegin;
-            enter(store.ids[child], cutBegin, cutEnd);
+            set(openTimes, window, cutBegin);
+            enter(at(store.ids, child), cutBegin, cutEnd);
         }
 
         private int latestChild(int node, int begin, int time) {
@@ -1220,12 +1256,13 @@ public final class TraceAssembler {
             int bestBegin = 0;
             int bestEnd = 0;
             for (int place = 0; place < store.spans; place++) {
-                int cutBegin = Math.max(forest.begins[place], begin);
-                int cutEnd = Math.min(forest.ends[place], time);
+                int cutBegin = Math.max(at(forest.begins, place), begin);
+                int cutEnd = Math.min(at(forest.ends, place), time);
                 if (cutBegin < cutEnd && forest.isChild(place, trace, node)) {
                     boolean isBetter = best == NONE || cutEnd > bestEnd
                             || (cutEnd == bestEnd && cutBegin < bestBegin)
-                            || (cutEnd == bestEnd && cutBegin == bestBegin && store.ids[place] < store.ids[best]);
+                            || (cutEnd == bestEnd && cutBegin == bestBegin
+                                    && at(store.ids, place) < at(store.ids, best));
                     if (isBetter) {
                         best = place;
                         bestBegin = cutBegin;
@@ -1238,9 +1275,9 @@ public final class TraceAssembler {
 
         private void record(int node, int begin, int end) {
             if (isWithin(length, MOST_SEGMENTS)) {
-                nodes[length] = node;
-                begins[length] = begin;
-                ends[length] = end;
+                set(nodes, length, node);
+                set(begins, length, begin);
+                set(ends, length, end);
                 length++;
             }
         }
@@ -1253,8 +1290,8 @@ public final class TraceAssembler {
         int timeOf(int node) {
             int sum = 0;
             for (int row = 0; row < length; row++) {
-                if (nodes[row] == node) {
-                    sum += ends[row] - begins[row];
+                if (at(nodes, row) == node) {
+                    sum += at(ends, row) - at(begins, row);
                 }
             }
             return sum;
@@ -1263,9 +1300,9 @@ public final class TraceAssembler {
         int timeOfService(int service) {
             int sum = 0;
             for (int row = 0; row < length; row++) {
-                int place = store.find(nodes[row]);
-                if (place != NONE && store.services[place] == service) {
-                    sum += ends[row] - begins[row];
+                int place = store.find(at(nodes, row));
+                if (place != NONE && at(store.services, place) == service) {
+                    sum += at(ends, row) - at(begins, row);
                 }
             }
             return sum;
@@ -1273,8 +1310,8 @@ public final class TraceAssembler {
 
         int nodeAt(int time) {
             for (int row = 0; row < length; row++) {
-                if (begins[row] <= time && time < ends[row]) {
-                    return nodes[row];
+                if (at(begins, row) <= time && time < at(ends, row)) {
+                    return at(nodes, row);
                 }
             }
             return NONE;
@@ -1295,12 +1332,12 @@ public final class TraceAssembler {
 
         int ownUnits(int place) {
             int own = store.duration(place);
-            int done = forest.begins[place];
+            int done = at(forest.begins, place);
             for (int rank = 0; rank < store.spans; rank++) {
-                int child = forest.order[rank];
-                if (forest.isChild(child, store.traces[place], store.ids[place])) {
-                    int begin = Math.max(forest.begins[child], done);
-                    int end = Math.min(forest.ends[child], forest.ends[place]);
+                int child = at(forest.order, rank);
+                if (forest.isChild(child, at(store.traces, place), at(store.ids, place))) {
+                    int begin = Math.max(at(forest.begins, child), done);
+                    int end = Math.min(at(forest.ends, child), at(forest.ends, place));
                     if (begin < end) {
                         own -= end - begin;
                         done = end;
@@ -1313,8 +1350,8 @@ public final class TraceAssembler {
         int childrenAt(int place, int time) {
             int count = 0;
             for (int child = 0; child < store.spans; child++) {
-                if (forest.begins[child] <= time && time < forest.ends[child]
-                        && forest.isChild(child, store.traces[place], store.ids[place])) {
+                if (at(forest.begins, child) <= time && time < at(forest.ends, child)
+                        && forest.isChild(child, at(store.traces, place), at(store.ids, place))) {
                     count++;
                 }
             }
@@ -1322,14 +1359,14 @@ public final class TraceAssembler {
         }
 
         boolean isErrorSource(int place) {
-            return store.errors[place] && !forest.areOverErrors[place];
+            return flagAt(store.errors, place) && !flagAt(forest.areOverErrors, place);
         }
 
         int errorSourceAt(int trace, int index) {
             int seen = 0;
             for (int rank = 0; rank < store.spans; rank++) {
-                int place = forest.order[rank];
-                if (store.traces[place] == trace && isErrorSource(place)) {
+                int place = at(forest.order, rank);
+                if (at(store.traces, place) == trace && isErrorSource(place)) {
                     if (seen == index) {
                         return place;
                     }
@@ -1342,7 +1379,7 @@ public final class TraceAssembler {
         int spansOf(int trace) {
             int count = 0;
             for (int place = 0; place < store.spans; place++) {
-                if (store.traces[place] == trace) {
+                if (at(store.traces, place) == trace) {
                     count++;
                 }
             }
@@ -1352,7 +1389,7 @@ public final class TraceAssembler {
         int errorsOf(int trace) {
             int count = 0;
             for (int place = 0; place < store.spans; place++) {
-                if (store.traces[place] == trace && store.errors[place]) {
+                if (at(store.traces, place) == trace && flagAt(store.errors, place)) {
                     count++;
                 }
             }
@@ -1362,7 +1399,7 @@ public final class TraceAssembler {
         int sumOf(int service, int what) {
             int sum = 0;
             for (int place = 0; place < store.spans; place++) {
-                if (store.services[place] == service) {
+                if (at(store.services, place) == service) {
                     sum += numberOf(place, what);
                 }
             }
@@ -1374,7 +1411,7 @@ public final class TraceAssembler {
                 case COUNT:
                     return 1;
                 case ERRORS:
-                    return store.errors[place] ? 1 : 0;
+                    return flagAt(store.errors, place) ? 1 : 0;
                 case DURATIONS:
                     return store.duration(place);
                 case SELF_TIMES:
@@ -1387,7 +1424,7 @@ public final class TraceAssembler {
         int longestDuration(int service) {
             int longest = 0;
             for (int place = 0; place < store.spans; place++) {
-                if (store.services[place] == service) {
+                if (at(store.services, place) == service) {
                     longest = Math.max(longest, store.duration(place));
                 }
             }
@@ -1410,7 +1447,7 @@ public final class TraceAssembler {
         /** The duration at a rank, counted from 1, among those of a service in ascending order. */
         int durationAt(int service, int rank) {
             for (int place = 0; place < store.spans; place++) {
-                if (store.services[place] == service) {
+                if (at(store.services, place) == service) {
                     int duration = store.duration(place);
                     if (countUpTo(service, duration - 1) < rank && rank <= countUpTo(service, duration)) {
                         return duration;
@@ -1423,7 +1460,7 @@ public final class TraceAssembler {
         private int countUpTo(int service, int duration) {
             int count = 0;
             for (int place = 0; place < store.spans; place++) {
-                if (store.services[place] == service && store.duration(place) <= duration) {
+                if (at(store.services, place) == service && store.duration(place) <= duration) {
                     count++;
                 }
             }
@@ -1433,8 +1470,8 @@ public final class TraceAssembler {
         int earliestBegin(int trace) {
             int least = FAR;
             for (int place = 0; place < store.spans; place++) {
-                if (store.traces[place] == trace) {
-                    least = Math.min(least, forest.begins[place]);
+                if (at(store.traces, place) == trace) {
+                    least = Math.min(least, at(forest.begins, place));
                 }
             }
             return least;
@@ -1443,8 +1480,8 @@ public final class TraceAssembler {
         int latestEnd(int trace) {
             int greatest = -FAR;
             for (int place = 0; place < store.spans; place++) {
-                if (store.traces[place] == trace) {
-                    greatest = Math.max(greatest, forest.ends[place]);
+                if (at(store.traces, place) == trace) {
+                    greatest = Math.max(greatest, at(forest.ends, place));
                 }
             }
             return greatest;
@@ -1454,10 +1491,10 @@ public final class TraceAssembler {
             int busy = 0;
             int done = -FAR;
             for (int rank = 0; rank < store.spans; rank++) {
-                int place = forest.order[rank];
-                if (store.traces[place] == trace && store.services[place] == service) {
-                    int begin = Math.max(forest.begins[place], done);
-                    int end = forest.ends[place];
+                int place = at(forest.order, rank);
+                if (at(store.traces, place) == trace && at(store.services, place) == service) {
+                    int begin = Math.max(at(forest.begins, place), done);
+                    int end = at(forest.ends, place);
                     if (begin < end) {
                         busy += end - begin;
                         done = end;
@@ -1487,10 +1524,10 @@ public final class TraceAssembler {
             for (int round = 0; round < TRACES; round++) {
                 int sources = reached | (1 << trace);
                 for (int link = 0; link < store.links; link++) {
-                    int from = store.find(store.froms[link]);
-                    int to = store.find(store.tos[link]);
-                    if (from != NONE && to != NONE && ((sources >> store.traces[from]) & 1) == 1) {
-                        reached |= 1 << store.traces[to];
+                    int from = store.find(at(store.froms, link));
+                    int to = store.find(at(store.tos, link));
+                    if (from != NONE && to != NONE && ((sources >> at(store.traces, from)) & 1) == 1) {
+                        reached |= 1 << at(store.traces, to);
                     }
                 }
             }
