@@ -115,10 +115,16 @@ public final class BoundaryTests extends Rows {
         });
         row(2, "Removes all spans and links", () -> {
             TraceAssembler x = Scripts.full();
+            ReadOut.now(x);
             x.clear();
-            due(x.spanCount() + x.linkCount() + x.roots(0, false) + x.pairs(true), 0);
+            due(ReadOut.now(x).equals(ReadOut.now(new TraceAssembler())), true);
             due(x.add(0, 60, -1, 0, 0, 0), 1);
             due(outcome(x, y -> y.linkDelay(0)), INDEX);
+            TraceAssembler y = Scripts.two();
+            y.clear();
+            y.add(0, 0, -1, 0, 0, 100);
+            y.add(0, 1, 0, 0, 0, 50);
+            alike(y, Scripts.two());
         });
         row(3, "Adds a span that is not marked as an error", () -> {
             TraceAssembler x = Scripts.two();
@@ -158,6 +164,27 @@ public final class BoundaryTests extends Rows {
             due(y.add(0, 99, -1, 0, 0, 0), 40);
         });
         noSpan(4, (x, span) -> x.remove(span));
+        row(4, "Removes a span", () -> {
+            // nothing is left of a span that is gone, whatever was asked before: as if it had never been there
+            int[][] gone = {{0, 0, 0, 100, 160}, {0, 3, 5, 135, 160}, {1, 10, 2, 0, 60}, {2, 0, 4, 0, 99},
+                {2, 99, 1, 0, 300}, {2, 50, 0, 0, 9999}, {3, 99, 6, 9100, 9200}, {3, -1, 6, 9999, 9999}};
+            for (int[] each : gone) {
+                TraceAssembler x = Scripts.some();
+                x.add(each[0], 40, each[1], each[2], each[3], each[4]);
+                x.mark(40, true);
+                x.link(40, 0);
+                x.link(20, 40);
+                ReadOut.now(x);
+                due(x.remove(40), 10);
+                TraceAssembler y = Scripts.some();
+                due(ReadOut.now(x).equals(ReadOut.now(y)), true);
+                y.save();
+                y.restore();
+                x.save();
+                x.restore();
+                alike(x, y);
+            }
+        });
         row(4, "Returns the number of spans that remain", () -> {
             due(Scripts.full().remove(60), 39);
             TraceAssembler x = Scripts.two();
@@ -220,10 +247,12 @@ public final class BoundaryTests extends Rows {
         });
         row(9, "- `what`: 0 for its trace", () -> {
             inside((x, what) -> x.span(99, what), 3, 99, 7, 9000, 9999, 9);
-            inside((x, what) -> x.span(0, what), 0, -1, 0, 100, 200, 0);
+            inside((x, what) -> x.span(0, what), 0, -1, 0, 100, 200, 3);
             TraceAssembler x = Scripts.some();
+            due(x.span(3, 5), 0);
             x.remove(0);
-            due(x.span(1, 5), 0);
+            due(x.span(1, 5), 1);
+            due(x.span(10, 5), 3);
             due(x.span(99, 5), 8);
             x.add(0, 0, -1, 0, 0, 0);
             due(x.span(0, 5), 9);
@@ -273,6 +302,8 @@ public final class BoundaryTests extends Rows {
             due(x.pairs(false), 39);
             x.setTimes(0, 0, 1);
             due(x.pairs(true), 39);
+            x.remove(0);
+            due(x.pairs(true) + x.pairs(false), 0);
         });
         noSpan(13, (x, span) -> x.isAccepted(span));
         row(13, "Throws `NoSuchElementException`", () -> {
@@ -381,6 +412,16 @@ public final class BoundaryTests extends Rows {
         row(22, TRACE, () -> {
             inside((x, trace) -> x.roots(trace, false), 1, 1, 0, 0);
             inside((x, trace) -> x.roots(trace, true), 0, 0, 2, 1);
+            TraceAssembler x = new TraceAssembler();
+            for (int id = 0; id < 40; id++) {
+                x.add(3, id, -1, 0, 0, 0);
+            }
+            due(x.roots(3, false), 40);
+            for (int id = 0; id < 40; id++) {
+                x.setParent(id, 40 + id);
+            }
+            due(x.roots(3, false), 0);
+            due(x.roots(3, true), 40);
         });
         noTrace(22, (x, trace) -> x.roots(trace, true));
         row(23, TRACE, () -> inside((x, trace) -> x.rootAt(trace, 0), 0, 10, 1000, 1099));
@@ -426,6 +467,12 @@ public final class BoundaryTests extends Rows {
                 x.add(id / 2 % 4, id, id ^ 1, 0, 0, 0);
                 due(x.cutCount(), (id + 1) / 2);
             }
+            x.remove(38);
+            due(x.cutCount(), 19);
+            x.add(3, 38, 39, 0, 0, 0);
+            due(x.cutCount(), 20);
+            x.remove(38);
+            due(x.cutCount(), 19);
         });
     }
 
@@ -454,6 +501,12 @@ public final class BoundaryTests extends Rows {
             for (int k = 0; k < spans.length; k++) {
                 due(Scripts.some().criticalTime(spans[k]), want[k]);
             }
+            // nothing is left of a longer path that was asked for before
+            TraceAssembler x = Scripts.some();
+            due(x.segments(0, 0), 5);
+            x.setTimes(3, 130, 140);
+            due(x.criticalTime(0), 80);
+            due(x.segments(0, 0), 4);
         });
         row(29, TRACE, () -> inside((x, trace) ->
             x.criticalAt(trace, Scripts.NODES[trace & 3], new int[] {144, 5, 25, 9998}[trace & 3]), 1, 11, 1000, 99));
@@ -470,6 +523,9 @@ public final class BoundaryTests extends Rows {
                     x -> x.criticalAt(2, 1001, 25), x -> x.criticalAt(0, -1, 110), x -> x.criticalAt(0, 1000, 10));
             outside(MISSING, (x, time) -> x.criticalAt(0, 0, time), 99, 200, 201, -1, LOW, HIGH);
             outside(MISSING, (x, time) -> x.criticalAt(3, 99, time), 8999, 9999);
+            TraceAssembler z = Scripts.some();
+            due(z.criticalAt(0, 0, 156), 1);
+            due(outcome(z, x -> x.criticalAt(3, 99, 156)), MISSING);
             TraceAssembler y = Scripts.two();
             y.setTimes(0, 7, 7);
             due(outcome(y, x -> x.criticalAt(0, 0, 7)), MISSING);
@@ -489,6 +545,8 @@ public final class BoundaryTests extends Rows {
                 due(x.parallel(0, times[k]), want[k]);
             }
             due(x.parallel(1, 10), 0);
+            due(Scripts.some().parallel(1, 145), 1);
+            due(Scripts.some().parallel(1, 155), 0);
             due(x.parallel(0, LOW), 0);
             due(x.parallel(0, HIGH), 0);
             TraceAssembler y = new TraceAssembler();
@@ -656,6 +714,15 @@ public final class BoundaryTests extends Rows {
             due(x.busiest(0), 5);
             x.setTimes(0, 3, 5);
             due(x.busiest(0), 7);
+            for (int service = 0; service < 8; service++) {
+                TraceAssembler y = new TraceAssembler();
+                for (int k = 0; k < 8; k++) {
+                    y.add(0, k, -1, k, 0, k == service ? 6 : 5);
+                }
+                due(y.busiest(0), service);
+                y.setTimes(service, 0, 5);
+                due(y.busiest(0), 0);
+            }
         });
         noTrace(39, (x, trace) -> x.busiest(trace));
         row(39, NO_SPANS, () -> refused(MISSING, BoundaryTests::short1, x -> x.busiest(2), x -> x.busiest(3)));
@@ -685,6 +752,8 @@ public final class BoundaryTests extends Rows {
             due(Scripts.some().link(10, 0), 3);
             TraceAssembler y = Scripts.full();
             y.unlink(0);
+            due(y.link(60, 62), 29);
+            y.unlink(29);
             due(y.link(60, 62), 29);
             due(outcome(y, x -> x.link(62, 60)), STATE);
         });
@@ -952,6 +1021,19 @@ public final class BoundaryTests extends Rows {
     }
 
     private static void history() {
+        row(51, "Undoes the latest change that is remembered", () -> {
+            Call[] changes = {x -> x.add(0, 5, 1, 3, 0, 900), x -> x.remove(1), x -> x.setParent(1, 1),
+                x -> x.setTimes(1, 0, 700), x -> x.mark(1, true), x -> x.link(99, 0), x -> x.unlink(1),
+                x -> Scripts.read(x, "7;"), x -> x.remove(0)};
+            TraceAssembler x = Scripts.some();
+            String before = ReadOut.now(x);
+            for (Call change : changes) {
+                change.on(x);
+                due(ReadOut.now(x).equals(before), false);
+                x.undo();
+                due(ReadOut.now(x), before);
+            }
+        });
         row(51, "Throws `NoSuchElementException`", () -> {
             refused(MISSING, Scripts::still, TraceAssembler::undo);
             due(outcome(new TraceAssembler(), TraceAssembler::undo), MISSING);
@@ -960,8 +1042,10 @@ public final class BoundaryTests extends Rows {
                 due(x.undo(), left);
             }
             due(outcome(x, TraceAssembler::undo), MISSING);
-            // undone are 3 links, 4 marks and the last add
-            due(x.spanCount(), 9);
+            // undone are 5 marks and 3 links
+            due(x.spanCount(), 10);
+            due(x.linkCount(), 0);
+            due(outcome(x, y -> y.cause(0, 0)), MISSING);
         });
         row(52, "What was saved before is replaced", () -> {
             TraceAssembler x = Scripts.full();
@@ -974,6 +1058,22 @@ public final class BoundaryTests extends Rows {
         row(52, "Returns the number of spans", () -> {
             due(new TraceAssembler().save(), 0);
             due(Scripts.full().save(), 40);
+        });
+        row(53, "Restores what was saved", () -> {
+            TraceAssembler x = Scripts.some();
+            x.save();
+            String saved = ReadOut.now(x);
+            x.setTimes(1, 0, 20);
+            x.remove(0);
+            x.unlink(0);
+            x.add(2, 0, 99, 6, 1, 2);
+            due(ReadOut.now(x).equals(saved), false);
+            due(x.restore(), 10);
+            due(ReadOut.now(x), saved);
+            x.clear();
+            ReadOut.now(x);
+            x.restore();
+            due(ReadOut.now(x), saved);
         });
         row(53, "It stays saved", () -> {
             TraceAssembler x = Scripts.some();

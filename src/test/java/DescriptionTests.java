@@ -379,10 +379,10 @@ public final class DescriptionTests extends Rows {
     /** Span 1 from 100 to 200, with children 2, 3 and so on of the given begins and ends. */
     private static TraceAssembler parent(int... times) {
         TraceAssembler x = new TraceAssembler();
-        x.add(0, 1, -1, 0, 100, 200);
         for (int k = 0; k + 1 < times.length; k += 2) {
             x.add(0, 2 + k / 2, 1, 0, times[k], times[k + 1]);
         }
+        x.add(0, 1, -1, 0, 100, 200);
         return x;
     }
 
@@ -451,6 +451,11 @@ public final class DescriptionTests extends Rows {
             due(y.segment(0, 0, 39, 1), 39);
             due(y.segment(0, 0, 39, 2), 61);
             due(y.criticalTime(39), 22);
+            // as deep as a path can go: under a placeholder, too
+            y.setParent(0, 99);
+            due(y.segments(0, 1099), 79);
+            due(y.segment(0, 1099, 39, 0), 39);
+            due(y.criticalTime(39), 22);
         });
         row(0, "The critical path of a node is that in the window of its whole corrected times", () -> {
             TraceAssembler x = Scripts.some();
@@ -463,6 +468,16 @@ public final class DescriptionTests extends Rows {
             due(outcome(x, y -> y.segment(2, 20, 0, 0)), MISSING);
             x.setTimes(20, 20, 21);
             due(path(x, 2, 20), "20:20-21");
+            // below 0: service 1 is put 9999 earlier
+            TraceAssembler z = new TraceAssembler();
+            z.add(0, 2, 3, 1, 20, 30);
+            z.add(0, 4, 3, 1, 10, 25);
+            z.add(0, 3, -1, 1, 0, 40);
+            z.add(0, 0, 1, 1, 9999, 9999);
+            z.add(0, 1, -1, 0, 0, 0);
+            due(path(z, 0, 3), "3:-9999--9989 4:-9989--9979 2:-9979--9969 3:-9969--9959");
+            due(z.criticalAt(0, 3, -9980), 4);
+            due(outcome(z, y -> y.criticalAt(0, 3, -9959)), MISSING);
         });
     }
 
@@ -551,7 +566,9 @@ public final class DescriptionTests extends Rows {
                 "00/0<0@0:0-0;",
                 "0/0<0@0:0!-0;", "0/0<0@0:0-0;0/1<-@0:0-0", "0/0<0@0:0-0;;", "0/0<0@00:0-0;", " 0/0<0@0:0-0;",
                 "0/0<0@0:0-0; ", "0/0<--@0:0-0;", "0:0<0@0:0-0;", "0/0>0@0:0-0;", "0/0<0:0:0-0;", "0/0<0@0@0-0;",
-                "0/0<0@0:0:0;", "0/0<0@0:0-0:"};
+                "0/0<0@0:0:0;", "0/0<0@0:0-0:", "0/:<0@0:0-0;", "0/0:<0@0:0-0;", "0/0<:@0:0-0;", "0/0<0:@0:0-0;",
+                "0/0<0@0::-0;", "0/0<0@0:0:-0;", "0/0<0@0:0-:;", "0/0<0@0:0-0:;", "0//<0@0:0-0;", "0/0/<0@0:0-0;",
+                "0/0</@0:0-0;", "0/0<0@0:/-0;", "0/0<0@0:0-/;", "//0<0@0:0-0;", "0/0<0@/:0-0;"};
             for (String text : texts) {
                 due(outcome(new TraceAssembler(), x -> Scripts.read(x, text)), text.indexOf(";0") > 0 ? 2 : 1);
             }
@@ -698,8 +715,8 @@ public final class DescriptionTests extends Rows {
             x.link(99, 0);
             due(x.linkedTraces(3), 1 + 2 + 4 + 8);
         });
-        row(0, "Methods whose documentation does not mention a change only answer a question", () ->
-            onlyAnswers(Scripts::some, x -> x.spanCount(), x -> x.span(0, 5), x -> x.offset(1), x -> x.freedom(1),
+        row(0, "Methods whose documentation does not mention a change only answer a question", () -> {
+            Call[] questions = {x -> x.spanCount(), x -> x.span(0, 5), x -> x.offset(1), x -> x.freedom(1),
                     x -> x.pairs(true), x -> x.isAccepted(1), x -> x.isInside(1), x -> x.corrected(1, true),
                     x -> x.explain(1), x -> x.root(1), x -> x.depth(1), x -> x.below(0, 0), x -> x.childCount(0, 0),
                     x -> x.child(0, 0, 0), x -> x.roots(0, true), x -> x.rootAt(0, 0), x -> x.missing(2, 1000, true),
@@ -708,7 +725,31 @@ public final class DescriptionTests extends Rows {
                     x -> x.cause(0, 0), x -> x.errorShare(0), x -> x.service(1, 4), x -> x.quantile(1, 50),
                     x -> x.extent(0), x -> x.activity(0, 0), x -> x.busiest(0), x -> x.linkCount(),
                     x -> x.linkDelay(0), x -> x.linkedTraces(0), x -> x.bookmarked(0, 0), x -> x.errorPosition(),
-                    x -> x.describe(0, -1)));
+                    x -> x.describe(0, -1)};
+            onlyAnswers(Scripts::some, questions);
+            // each question as the first one after a change, and after all others
+            for (Call question : questions) {
+                TraceAssembler first = Scripts.some();
+                ReadOut.now(first);
+                changeMuch(first);
+                Object got = outcome(first, question);
+                TraceAssembler last = Scripts.some();
+                changeMuch(last);
+                ReadOut.now(last);
+                due(got, outcome(last, question));
+            }
+        });
+    }
+
+    private static void changeMuch(TraceAssembler x) {
+        x.setTimes(0, 90, 260);
+        x.setTimes(3, 0, 2);
+        x.setParent(3, 2);
+        x.setParent(20, 99);
+        x.setTimes(21, 50, 70);
+        x.add(1, 8, 11, 6, 0, 1);
+        x.setParent(10, 8);
+        x.remove(99);
     }
 
     private static void morePrecisely() {

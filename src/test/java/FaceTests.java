@@ -9,7 +9,9 @@ import java.nio.file.Path;
 import java.util.ArrayList;
 import java.util.HashSet;
 import java.util.List;
+import java.util.Map;
 import java.util.Set;
+import java.util.TreeMap;
 import java.util.TreeSet;
 import java.util.regex.Matcher;
 import java.util.regex.Pattern;
@@ -131,6 +133,57 @@ public final class FaceTests {
             check(!Pattern.compile(each).matcher(bare).find(), "the text has " + each);
         }
         longMethods(text.split("\n"));
+        Map<String, String> bodies = bodies(bare);
+        for (Map.Entry<String, String> method : bodies.entrySet()) {
+            untestedIndices(method.getKey(), method.getValue());
+            int depth = depth(method.getKey(), bodies, List.of());
+            check(depth <= 8, "calls from " + method.getKey() + " go " + depth + " deep");
+        }
+        check(bodies.size() > 100 && depth("below", bodies, List.of()) > 4, "the methods are not found");
+    }
+
+    /** The text of each method by its name; methods of one name count as one. */
+    private static Map<String, String> bodies(String bare) {
+        Map<String, String> bodies = new TreeMap<>();
+        Matcher header = Pattern.compile("(?m)^( {4}| {8})(?:(?:public|private|static|final) )*[\\w\\[\\]]+ (\\w+)"
+                + "\\([^)]*\\)[^;{=]*\\{$").matcher(bare);
+        while (header.find()) {
+            int end = bare.indexOf("\n" + header.group(1) + "}", header.end());
+            bodies.merge(header.group(2), bare.substring(header.end(), end), String::concat);
+        }
+        return bodies;
+    }
+
+    private static int depth(String name, Map<String, String> bodies, List<String> open) {
+        if (open.contains(name)) {
+            return 1000;
+        }
+        List<String> inner = new ArrayList<>(open);
+        inner.add(name);
+        int deepest = 0;
+        Matcher call = Pattern.compile("(\\w+)\\(").matcher(bodies.get(name));
+        while (call.find()) {
+            if (bodies.containsKey(call.group(1))) {
+                deepest = Math.max(deepest, depth(call.group(1), bodies, inner));
+            }
+        }
+        return deepest + 1;
+    }
+
+    /** An index is a plain name that the method has compared before with a bound. */
+    private static void untestedIndices(String method, String body) {
+        Matcher index = Pattern.compile("(new )?\\w+((?:\\[[^\\]]*\\])+)").matcher(body);
+        while (index.find()) {
+            if (index.group(1) != null || index.group(2).equals("[]")) {
+                continue;
+            }
+            String before = body.substring(0, index.start());
+            for (String name : index.group(2).substring(1, index.group(2).length() - 1).split("\\]\\[")) {
+                boolean isTested = name.matches("\\w+") && (before.contains(name + " < ")
+                        || before.contains("isWithin(" + name + ", "));
+                check(isTested, "an index is not tested in " + method + ": " + name);
+            }
+        }
     }
 
     private static void longMethods(String[] lines) {

@@ -19,7 +19,8 @@ import java.util.regex.Pattern;
  */
 public final class ModelRuns {
     private static final int RUNS = 2500;
-    private static final int CALLS = 500;
+    /** As many as an object is used for. */
+    private static final int CALLS = 512;
 
     /** Every method with the kinds of its arguments, see argument(); a number tells how often it is called. */
     private static final String[] TABLE = {

@@ -73,13 +73,8 @@ class Checks {
             Object got = outcome(x, calls[k]);
             if (!want.equals(got)) {
                 fail("call " + k + " answered " + got + ", due is " + want);
-                continue;
-            }
-            String after = ReadOut.everything(x);
-            if (after.equals(twin)) {
-                passed++;
             } else {
-                fail("call " + k + " has changed something: " + firstDifference(after, twin));
+                sameAs(twin, x, "call " + k + " has changed something: ");
             }
         }
     }
@@ -92,24 +87,23 @@ class Checks {
             Object got = outcome(x, calls[k]);
             if (got instanceof Class || got instanceof String) {
                 fail("call " + k + " answered " + got);
-            }
-            String after = ReadOut.everything(x);
-            if (after.equals(twin)) {
-                passed++;
             } else {
-                fail("call " + k + " has changed something: " + firstDifference(after, twin));
+                sameAs(twin, x, "call " + k + " has changed something: ");
             }
         }
     }
 
     /** Both objects answer everything alike. */
     static void alike(TraceAssembler x, TraceAssembler y) {
-        String one = ReadOut.everything(x);
-        String other = ReadOut.everything(y);
-        if (one.equals(other)) {
+        sameAs(ReadOut.everything(y), x, "not alike: ");
+    }
+
+    private static void sameAs(String twin, TraceAssembler x, String fault) {
+        String got = ReadOut.everything(x);
+        if (got.equals(twin)) {
             passed++;
         } else {
-            fail("not alike: " + firstDifference(one, other));
+            fail(fault + firstDifference(got, twin));
         }
     }
 

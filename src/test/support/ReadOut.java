@@ -10,6 +10,13 @@ final class ReadOut {
         this.x = x;
     }
 
+    /** All answers as they are now. */
+    static String now(TraceAssembler x) {
+        ReadOut out = new ReadOut(x);
+        out.answers();
+        return out.rows.toString();
+    }
+
     /** All answers, also those after each undo, after the input is read to its end and after restore; it uses x up. */
     static String everything(TraceAssembler x) {
         ReadOut out = new ReadOut(x);
@@ -38,6 +45,8 @@ final class ReadOut {
         for (int id : ids()) {
             row("text of " + id, each -> text(each, id));
             row("place of " + id, each -> each.span(id, 5));
+            row("begin of " + id, each -> each.corrected(id, false));
+            row("root of " + id, each -> each.root(id));
         }
         row("links", TraceAssembler::linkCount);
         for (int link = 0; link < x.linkCount(); link++) {
@@ -91,10 +100,8 @@ final class ReadOut {
 
     private void span(int id) {
         int trace = x.span(id, 0);
-        row("begin of " + id, each -> each.corrected(id, false));
         row("end of " + id, each -> each.corrected(id, true));
         row("kind of " + id, each -> each.explain(id));
-        row("root of " + id, each -> each.root(id));
         row("depth of " + id, each -> each.depth(id));
         row("accepted " + id, each -> each.isAccepted(id));
         row("inside " + id, each -> each.isInside(id));
@@ -108,12 +115,13 @@ final class ReadOut {
     private void node(int trace, int node) {
         row("below " + node, each -> each.below(trace, node));
         row("segments of " + node, each -> each.segments(trace, node));
-        for (int k = 0; k < 3 * x.segments(trace, node); k++) {
+        // one more than there are, as for the children, the roots and the causes
+        for (int k = 0; k <= 3 * x.segments(trace, node); k++) {
             int index = k;
             row("segment of " + node, each -> each.segment(trace, node, index / 3, index % 3));
         }
         row("children of " + node, each -> each.childCount(trace, node));
-        for (int k = 0; k < x.childCount(trace, node); k++) {
+        for (int k = 0; k <= x.childCount(trace, node); k++) {
             int index = k;
             row("child of " + node, each -> each.child(trace, node, index));
         }
@@ -123,16 +131,17 @@ final class ReadOut {
         row("roots", each -> each.roots(trace, false));
         row("placeholders", each -> each.roots(trace, true));
         int roots = x.roots(trace, false) + x.roots(trace, true);
-        for (int k = 0; k < roots; k++) {
-            int root = x.rootAt(trace, k);
-            rows.append("root = ").append(root).append('\n');
+        for (int k = 0; k <= roots; k++) {
+            int index = k;
+            row("root " + k, each -> each.rootAt(trace, index));
+            int root = k < roots ? x.rootAt(trace, k) : 0;
             if (root >= 1000) {
                 row("begin of " + root, each -> each.missing(trace, root, false));
                 row("end of " + root, each -> each.missing(trace, root, true));
                 node(trace, root);
             }
         }
-        for (int k = 0; k < 4; k++) {
+        for (int k = 0; k < 5; k++) {
             int index = k;
             row("cause " + k, each -> each.cause(trace, index));
         }

@@ -9,16 +9,17 @@ final class Scripts {
     /**
      * Something of everything: accepted and rejected pairs in trace 0, a cycle in trace 1, the placeholders 1000 and
      * 1099 in trace 2 and 1099 in trace 3; links, errors, bookmarks, more than 8 changes, something saved, an error
-     * position, and an input that is the start of a text.
+     * position, and an input that is the start of a text. Children come before parents, and a change comes last, so
+     * that nothing is worked out yet.
      */
     static TraceAssembler some() {
         TraceAssembler x = new TraceAssembler();
         write(x, "0/x");
         Checks.outcome(x, TraceAssembler::read);
-        x.add(0, 0, -1, 0, 100, 200);
+        x.add(0, 3, 1, 1, 135, 145);
         x.add(0, 1, 0, 1, 130, 150);
         x.add(0, 2, 0, 1, 300, 320);
-        x.add(0, 3, 1, 1, 135, 145);
+        x.add(0, 0, -1, 0, 100, 200);
         x.add(1, 10, 11, 2, 0, 50);
         x.add(1, 11, 10, 2, 5, 45);
         x.add(2, 20, 0, 3, 10, 20);
@@ -36,6 +37,7 @@ final class Scripts {
         x.bookmark(0, 0, 0, 0);
         x.bookmark(1, 3, 2, 1099);
         write(x, "2/77<-@0:1-");
+        x.mark(0, false);
         return x;
     }
 
