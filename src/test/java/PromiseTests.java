@@ -672,11 +672,11 @@ public final class PromiseTests {
                 () -> x.segment(0, 9, 0, 0), () -> x.segment(0, 1, HIGH, 2), () -> x.segment(0, 1, LOW, 2));
         dueThrow(ARGUMENT, () -> x.segment(0, 1, 0, 3), () -> x.segment(0, 1, 0, -1), () -> x.segment(0, 9, 9, 3));
         dueThrow(INDEX, () -> x.segment(4, 1, 0, 0), () -> x.segment(-1, 9, 9, 9));
-        // a node of another trace, with a path there, asked as the first question after the last change
+        // the first question after a change, then nodes of another trace, which have paths there
         TraceAssembler w = family();
         w.add(1, 9, 1, 0, 0, 100);
-        dueThrow(MISSING, () -> w.segment(1, 1, 0, 0), () -> w.segment(0, 9, 0, 0), () -> w.segment(0, 1001, 0, 0));
         due(w.segment(1, 1001, 0, 0), 9);
+        dueThrow(MISSING, () -> w.segment(1, 1, 0, 0), () -> w.segment(0, 9, 0, 0), () -> w.segment(0, 1001, 0, 0));
         // children that stick out are cut, also those of children; the latest end wins, then the earliest begin
         TraceAssembler y = new TraceAssembler();
         y.add(0, 1, -1, 0, 100, 200);
